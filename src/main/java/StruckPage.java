@@ -154,7 +154,7 @@ public final class StruckPage {
         int sum = 0;
         for (int l = 0; l < paper.lines; l++) {
             int unlikeBits = now.struck[l] ^ shelf.struckInImage(l);
-            // one stroke mends one run of words side by side, and no stroke ends more than one run
+            // a run of words side by side has two ends, and a stroke makes two at most: each run takes one stroke
             sum += Integer.bitCount(unlikeBits & ~(unlikeBits << 1));
         }
         return sum;
