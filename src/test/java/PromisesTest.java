@@ -171,6 +171,7 @@ public final class PromisesTest {
         due(page(" line 3  4;  "), 2);
         due(page("line3;cell0 5;ink9;"), 1);
         due(x.cell(0), 5);
+        due(page("line 1" + times(586, " ") + "2;" + times(6, " ")), 2);
         due(page("line 0007;ink 00200;"), 1);
         due(x.word(0, 0, 0), 7);
         due(x.told(3), 200);
@@ -288,6 +289,8 @@ public final class PromisesTest {
         due(worth("0007"), 7);
         due(worth("((((((7))))))"), 7);
         due(worth("least[(most[(least[(7),9]),1]),60]"), 7);
+        // as many values wait as can: of a sum, a product and a pair at each of six levels, and within
+        due(worth(times(6, "9-1*most[1,") + "9-1*2" + times(6, "]")), 7);
         faulty(law("(((((((7)))))))"), 3, 6);
         faulty(law("((((((least[1,2]))))))"), 3, 6);
         faulty(law("((((((  most"), 3, 8);
@@ -451,6 +454,11 @@ public final class PromisesTest {
         due(x.undo(), 15);
         due(x.work(150), 0);
         due(x.count(2), 16);
+        x.undo();
+        due(work(times(30, "wipe;")), 0);
+        due(x.told(9), 30);
+        x.undo();
+        due(work(times(10, "set0 0;set0 1;") + times(10, " ")), 20);
     }
 
     private static void sentences() {
