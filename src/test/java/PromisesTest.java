@@ -1,18 +1,6 @@
-import java.util.NoSuchElementException;
-import java.util.function.LongSupplier;
-
 /** The forty promises, one by one: ordinary inputs, the edges the document names, wrong inputs. */
-public final class PromisesTest {
-    private static final String ILLEGAL = "IllegalArgumentException";
-    private static final String NO_SUCH = "NoSuchElementException";
-    private static final int NONE = StruckPage.NONE;
-    private static int wrong = 0;
-    private static int promise = 0;
-    private static int nth = 0;
-
-    private static StruckPage x;
-
-    public static void main(String[] args) {
+public final class PromisesTest extends Bench {
+    public static void main(String[] args) throws Exception {
         newObject();
         feedAndTexts();
         pageFaults();
@@ -28,94 +16,7 @@ public final class PromisesTest {
         sums();
         hands();
         counts();
-        System.out.println(wrong == 0 ? "all promises are kept" : wrong + " answers are not as due");
-        if (wrong != 0) {
-            System.exit(1);
-        }
-    }
-
-    // ---- helpers ----
-
-    private static void of(int number) {
-        promise = number;
-        nth = 0;
-    }
-
-    private static void due(long got, long want) {
-        nth++;
-        if (got != want) {
-            tell("answered " + got + ", due is " + want);
-        }
-    }
-
-    private static void tell(String what) {
-        wrong++;
-        StackTraceElement[] trace = new Throwable().getStackTrace();
-        System.out.println("promise " + promise + ", check " + nth + " (line " + trace[2].getLineNumber() + "): " + what);
-    }
-
-    private static void refused(String name, LongSupplier call) {
-        nth++;
-        int which = name.equals(NO_SUCH) ? 0 : 1;
-        int before = x.status(which);
-        int others = x.status(1 - which);
-        String got = "nothing";
-        try {
-            call.getAsLong();
-        } catch (RuntimeException e) {
-            got = e.getClass().getSimpleName();
-        }
-        if (!got.equals(name)) {
-            tell("threw " + got + ", due is " + name);
-        } else if (x.status(which) != before + 1 || x.status(1 - which) != others) {
-            tell("was not counted as refused by " + name);
-        }
-    }
-
-    private static void put(String text) {
-        for (int i = 0; i < text.length(); i += 20) {
-            int[] five = new int[5];
-            for (int k = 0; k < 20; k++) {
-                five[k / 4] = five[k / 4] << 8 | (i + k < text.length() ? text.charAt(i + k) : 0);
-            }
-            x.feed(five[0], five[1], five[2], five[3], five[4]);
-        }
-    }
-
-    private static int page(String text) {
-        put(text);
-        return x.page(text.length());
-    }
-
-    private static int law(String text) {
-        put(text);
-        return x.law(text.length());
-    }
-
-    private static int work(String text) {
-        put(text);
-        return x.work(text.length());
-    }
-
-    private static int sentence(String text) {
-        put(text);
-        return x.sentence(text.length());
-    }
-
-    private static void fresh(String text) {
-        x = new StruckPage();
-        if (page(text) < 0) {
-            tell("the page of the test itself is faulty");
-        }
-    }
-
-    private static void faulty(int answer, int kind, int place) {
-        due(answer, kind - 10);
-        due(x.fault(), place);
-    }
-
-    private static String times(int n, String text) {
-        return text.repeat(n);
+        end(args);
     }
 
     // ---- the promises ----
@@ -135,7 +36,7 @@ public final class PromisesTest {
         due(x.status(0), 0);
         due(x.status(1), 0);
         due(x.would(7, 0, 0, 0, 0, 0, 0), 4);
-        due(x.says() ? 1 : 0, 1);
+        due(x.says(), true);
         due(work("run 1;begin;wipe;fill 1;set 0 0;"), 1);
         due(x.told(9), 4);
         faulty(work("strike 0 0 0;"), 2, 7);
@@ -665,13 +566,6 @@ public final class PromisesTest {
         due(x.longest(1), NONE);
     }
 
-    private static void cells(int zero, int one, int two, int three) {
-        due(x.cell(0), zero);
-        due(x.cell(1), one);
-        due(x.cell(2), two);
-        due(x.cell(3), three);
-    }
-
     private static void deedsOfTheRun() {
         of(5);
         fresh("line 0 1 1;line 1 6 9;line 2 1 15;line 3 5 6;line 15;cell 1 9;");
@@ -804,15 +698,15 @@ public final class PromisesTest {
     private static void sayings() {
         of(18);
         fresh("line 1 2 1;line 2 1;");
-        due(x.says() ? 1 : 0, 0);
+        due(x.says(), false);
         sentence("1;2;1;2;1;");
-        due(x.says() ? 1 : 0, 1);
+        due(x.says(), true);
         work("strike 0 0 1;");
-        due(x.says() ? 1 : 0, 0);
+        due(x.says(), false);
         sentence("1;2;1;");
-        due(x.says() ? 1 : 0, 1);
+        due(x.says(), true);
         sentence("1;2;");
-        due(x.says() ? 1 : 0, 0);
+        due(x.says(), false);
 
         of(19);
         due(x.ways(), 3);
