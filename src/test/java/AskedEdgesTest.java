@@ -57,13 +57,15 @@ public final class AskedEdgesTest extends Bench {
 
     private static void nothingStaysChanged() {
         says("Asked, nothing stays changed; strokes of STROKES, FORGED, ARGUMENT, mends() cost nothing.");
-        List<LongSupplier> questions = List.of(() -> x.fault(), () -> x.told(2), () -> x.line(0, 3), () -> x.word(0, 0, 1),
-            () -> x.reads(3), () -> x.cell(1), () -> x.cost(0, 0, 1), () -> x.would(8, 8, 7, 5, 48, 200, 999),
+        List<LongSupplier> questions = List.of(() -> x.fault(), () -> x.told(2), () -> x.line(0, 3),
+            () -> x.word(0, 0, 1), () -> x.reads(3), () -> x.cell(1), () -> x.cost(0, 0, 1),
+            () -> x.would(8, 8, 7, 5, 48, 200, 999),
             () -> x.ahead(999, 0), () -> x.ahead(7, 1), () -> x.ahead(2, 2), () -> x.ends(), () -> x.says() ? 1 : 0,
             () -> x.ways(), () -> x.strokes(), () -> x.best(), () -> x.unlike(3), () -> x.forged(0), () -> x.forged(1),
             () -> x.value(0), () -> x.argument(15, 0), () -> x.argument(15, 1), () -> x.common(0, 1), () -> x.apart(),
-            () -> x.mends(), () -> x.duel(3, 4, 2), () -> x.chance(5, 2, 3, 0), () -> x.share(0, 15, 5), () -> x.often(0),
-            () -> x.deeds(8), () -> x.longest(1), () -> x.hand(5, 96, 8, 0), () -> x.span(5, 20, 96, 8, 2, 1),
+            () -> x.mends(), () -> x.duel(3, 4, 2), () -> x.chance(5, 2, 3, 0), () -> x.share(0, 15, 5),
+            () -> x.often(0), () -> x.deeds(8), () -> x.longest(1), () -> x.hand(5, 96, 8, 0),
+            () -> x.span(5, 20, 96, 8, 2, 1),
             () -> x.status(0), () -> x.count(0));
         for (LongSupplier question : questions) {
             somePage();
@@ -86,6 +88,38 @@ public final class AskedEdgesTest extends Bench {
     }
 
     private static void told() {
+        says("0 LINES, 1 WORDS of the PAGE, 2 WORDS that are left, 3 ink, 4 strokes by now,");
+        fresh(times(6, "line 1 2 3 4 5 6 7 8;") + "ink 200;");
+        int[] full = {6, 48, 48, 200, 0};
+        for (int what = 0; what < full.length; what++) {
+            due(x.told(what), full[what]);
+        }
+        law("20");
+        work("again 60[strike 5 0 7;strike 0 7 7;];");
+        // ten strokes for all of the ink: each of both was struck and given back, and struck again
+        int[] spent = {6, 48, 39, 0, 10};
+        for (int what = 0; what < spent.length; what++) {
+            due(x.told(what), spent[what]);
+        }
+        law("0");
+        work("again 60[strike 5 0 7;strike 0 7 7;strike 0 0 0;];");
+        due(x.told(4), 10 + 180);
+        fresh("ink 0;");
+        for (int what = 0; what < 5; what++) {
+            due(x.told(what), 0);
+        }
+
+        says("6 DEEDS by now,");
+        fresh("line 8;line 5 0;");
+        due(x.told(6), 0);
+        work("again 60[run 99;run 99;run 99;];again 18[run 99;];");
+        due(x.told(6), 198 * 99);
+        work("again 60[run 99;run 99;run 99;];again 18[run 99;];");
+        due(x.told(6), 2 * 198 * 99);
+        cells(999, 0, 0, 0);
+        work("begin;wipe;set 0 0;");
+        due(x.told(6), 2 * 198 * 99);
+
         says("5 the LINE at which the run is, whatever is left of it (as many as there are LINES: it is OVER)");
         fresh("line 8;line 9;line 10;");
         due(x.told(5), 0);
@@ -282,7 +316,8 @@ public final class AskedEdgesTest extends Bench {
     // ---- prices, and deeds ahead ----
 
     private static void prices() {
-        says("IllegalArgumentException: the second is ahead of the first.");
+        says("COST of a stroke over WORDS from one to another one of a LINE now. IllegalArgumentException: the second"
+            + " is ahead of the first.");
         fresh("line 1 2 3;");
         law("words*10+first");
         due(x.cost(0, 2, 2), 12);
@@ -392,6 +427,20 @@ public final class AskedEdgesTest extends Bench {
     // ---- the sentence ----
 
     private static void waysToSay() {
+        says("Whether the PAGE SAYS the SENTENCE.");
+        bare();
+        due(x.says(), true);
+        page("line 1;");
+        due(x.says(), false);
+        sentence("1;");
+        due(x.says(), true);
+        work("strike 0 0 0;");
+        due(x.says(), false);
+        due(sentence("x"), -9);
+        due(x.says(), false);
+        x.undo();
+        due(x.says(), true);
+
         says("The PAGE SAYS all its WORDS that are left, one behind the other, LINE by LINE.");
         fresh("line 1 2;line 2;");
         sentence("1;2;2;");
@@ -645,8 +694,8 @@ public final class AskedEdgesTest extends Bench {
             due(x.value(0), whole[n]);
         }
 
-        says("each 1 WORD that is left, or 2 such of one LINE with numbers that follow one another (so what is struck,"
-            + " by them or ahead of it, parts a LINE); who can't, has lost.");
+        says("two strike by turns, each 1 WORD that is left, or 2 such of one LINE with numbers that follow one another"
+            + " (so what is struck, by them or ahead of it, parts a LINE); who can't, has lost.");
         // parted by one that is struck: 1 and 1, from which nobody who is on turn wins; side by side he strikes both
         fresh("line 5 5 5;line 5 5;");
         work("strike 0 1 1;");
@@ -688,9 +737,10 @@ public final class AskedEdgesTest extends Bench {
             due(x.argument(1, 1), first);
             due(x.argument(1, 0), known[left]);
         }
+
+        says("WINNING: a stroke behind which VALUES of all LINES, taken together bit by bit as odd or even, are 0.");
         // the values are 2, 3, 1, 1, 1, 2
         fresh("line 1 1;line 1 1 1;line 1;line 1;line 1;line 1 1;");
-        due(x.argument(63, 0), 2 ^ 3 ^ 1 ^ 1 ^ 1 ^ 2);
         due(x.argument(32, 1), 501);
         due(x.argument(16, 1), 400);
         due(x.argument(7, 0), 0);
@@ -702,6 +752,15 @@ public final class AskedEdgesTest extends Bench {
         due(x.argument(34, 0), 1);
         // 3 against 2: a line of three is made one of two by its first word
         due(x.argument(34, 1), 100);
+
+        says("ARGUMENT on told LINES (bits): 0 VALUES of these, taken together bit by bit as odd or even");
+        due(x.argument(63, 0), 2 ^ 3 ^ 1 ^ 1 ^ 1 ^ 2);
+        due(x.argument(0, 0), 0);
+        due(x.argument(1, 0), 2);
+        due(x.argument(32, 0), 2);
+        due(x.argument(33, 0), 0);
+        due(x.argument(3, 0), 1);
+        due(x.argument(5, 0), 3);
 
         says("IllegalArgumentException: bits of no LINES (so below).");
         fresh("line 1;line 1;line 1;");
@@ -744,11 +803,11 @@ public final class AskedEdgesTest extends Bench {
     }
 
     private static void shares() {
-        says("levelled: no more than that each, no more than a bound, the greatest by which no more than n are given"
-            + " (all, if they are no more).");
+        says("SHARES of n among told LINES (bits) by WORDS that are left: levelled: no more than that each, no more"
+            + " than a bound, the greatest by which no more than n are given (all, if they are no more).");
         fresh("line 1;line 1 1 1;line 1 1 1 1 1 1 1 1;");
-        int[][] dues = {{0, 0, 0, 0}, {1, 0, 0, 0}, {2, 0, 0, 0}, {3, 1, 1, 1}, {4, 1, 1, 1}, {5, 1, 2, 2}, {6, 1, 2, 2},
-            {7, 1, 3, 3}, {8, 1, 3, 4}, {11, 1, 3, 7}, {12, 1, 3, 8}, {13, 1, 3, 8}, {200, 1, 3, 8}};
+        int[][] dues = {{0, 0, 0, 0}, {1, 0, 0, 0}, {2, 0, 0, 0}, {3, 1, 1, 1}, {4, 1, 1, 1}, {5, 1, 2, 2},
+            {6, 1, 2, 2}, {7, 1, 3, 3}, {8, 1, 3, 4}, {11, 1, 3, 7}, {12, 1, 3, 8}, {13, 1, 3, 8}, {200, 1, 3, 8}};
         for (int[] d : dues) {
             for (int l = 0; l < 3; l++) {
                 due(x.share(l, 7, d[0]), d[1 + l]);
@@ -846,6 +905,27 @@ public final class AskedEdgesTest extends Bench {
     }
 
     private static void duels() {
+        says("DUEL by v, w: each of two strikes, or waits: both strike: each has 0 less w; one strikes: it has v, the"
+            + " other one 0; both wait: each has w; RESTS: neither would have more by the other thing.");
+        bare();
+        // nothing to have: all four rest; as much by striking as by waiting: three do, both striking does not
+        due(x.duel(0, 0, 0), 4);
+        due(x.duel(0, 0, 1), 0);
+        due(x.duel(0, 0, 2), 0);
+        due(x.duel(7, 7, 0), 3);
+        due(x.duel(7, 7, 1), 1);
+        due(x.duel(7, 7, 2), 7);
+        due(x.duel(7, 8, 0), 1);
+        due(x.duel(7, 8, 1), 11);
+        due(x.duel(7, 8, 2), 16);
+        due(x.duel(8, 7, 0), 2);
+        due(x.duel(8, 7, 1), 1);
+        due(x.duel(8, 7, 2), 8);
+        // nothing lost by both striking
+        due(x.duel(7, 0, 0), 3);
+        due(x.duel(7, 0, 1), 0);
+        due(x.duel(7, 0, 2), 0);
+
         says("DUEL by v, w (0 to 99): 0 how many RESTS, 1 the first (10 times what the one does, 0 it strikes, 1 it"
             + " waits, and the other one; NONE), 2 what both have by it together (0 without).");
         for (int v = 0; v <= 99; v++) {
@@ -872,17 +952,6 @@ public final class AskedEdgesTest extends Bench {
         bare();
         onlyFromTo(0, 99, v -> x.duel(v, 0, 0));
         onlyFromTo(0, 99, w -> x.duel(0, w, 0));
-        // nothing to have: all four rest; as much by striking as by waiting: three do, both striking does not
-        due(x.duel(0, 0, 0), 4);
-        due(x.duel(0, 0, 1), 0);
-        due(x.duel(7, 7, 0), 3);
-        due(x.duel(7, 7, 1), 1);
-        due(x.duel(7, 7, 2), 7);
-        due(x.duel(7, 8, 0), 1);
-        due(x.duel(7, 8, 1), 11);
-        due(x.duel(7, 8, 2), 16);
-        due(x.duel(8, 7, 0), 2);
-        due(x.duel(8, 7, 1), 1);
     }
 
     private static BigInteger big(int number) {
@@ -890,6 +959,15 @@ public final class AskedEdgesTest extends Bench {
     }
 
     private static void chances() {
+        says("CHANCE of n, k, q: each of n words is struck by q of 16, each by itself: how likely k or more are left.");
+        bare();
+        long[][] plain = {{1, 1, 4, 3, 4}, {1, 0, 4, 1, 1}, {1, 1, 16, 0, 1}, {1, 1, 0, 1, 1}, {1, 2, 0, 0, 1},
+            {0, 0, 16, 1, 1}, {0, 1, 0, 0, 1}, {2, 1, 8, 3, 4}, {2, 2, 8, 1, 4}, {12, 12, 15, 1, 1L << 48}};
+        for (long[] c : plain) {
+            due(x.chance((int) c[0], (int) c[1], (int) c[2], 0), c[3]);
+            due(x.chance((int) c[0], (int) c[1], (int) c[2], 1), c[4]);
+        }
+
         says("CHANCE of n (0 to 12), k (0 to 13), q (0 to 16): above (part 0), below (part 1), in least terms.");
         for (int n = 0; n <= 12; n++) {
             for (int q = 0; q <= 16; q++) {
@@ -964,7 +1042,8 @@ public final class AskedEdgesTest extends Bench {
     }
 
     private static void hands() {
-        says("strike L, the lesser of I, J, the greater, as in WORK, with its COST (if it can be done)");
+        says("A HAND by a SEED: so many times: DRAWN by how many LINES, L; DRAWN by how many WORDS it has, I; DRAWN"
+            + " likewise, J: strike L, the lesser of I, J, the greater, as in WORK, with its COST (if it can be done)");
         fresh("line 1 2 3 4 5 6 7 8;ink 59;");
         law("60");
         due(x.hand(3, 96, 0, 0), 8);

@@ -14,10 +14,10 @@ import java.util.TreeSet;
 import java.util.regex.Matcher;
 import java.util.regex.Pattern;
 
-/** What LANGUAGE.md asks of the form of the class, as far as a program can see it; and that calls make next to nothing. */
+/** What LANGUAGE.md asks of the form of the class, as far as a program can see it; and that calls make no objects. */
 public final class FormTest {
-    private static final String FACE = "feed page law work sentence fault undo told line word reads cell cost would ahead "
-        + "ends says ways strokes best unlike forged value argument common apart mends duel chance share often deeds "
+    private static final String FACE = "feed page law work sentence fault undo told line word reads cell cost would "
+        + "ahead ends says ways strokes best unlike forged value argument common apart mends duel chance share often deeds "
         + "longest hand span image restore status count";
     private static int wrong = 0;
 
@@ -70,7 +70,7 @@ public final class FormTest {
         for (Class<?> c : all) {
             ask(Modifier.isStatic(c.getModifiers()) && Modifier.isPrivate(c.getModifiers()), "1: class " + c.getName());
             for (Method m : c.getDeclaredMethods()) {
-                ask(!face.contains(m.getName()), "1: a method of the face's name in " + c.getName() + ": " + m.getName());
+                ask(!face.contains(m.getName()), "1: a name of the face in " + c.getName() + ": " + m.getName());
             }
         }
         all.add(StruckPage.class);

@@ -6,7 +6,7 @@ import java.util.ArrayList;
 import java.util.List;
 import java.util.function.LongSupplier;
 
-/** What the tests of the promises share: an object on the bench, what is due of it, and what is told if it is not so. */
+/** What the tests of the promises share: an object on the bench, what is due of it, and the telling if it is not so. */
 abstract class Bench {
     static final String ILLEGAL = "IllegalArgumentException";
     static final String NO_SUCH = "NoSuchElementException";
