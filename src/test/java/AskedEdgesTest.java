@@ -511,6 +511,8 @@ public final class AskedEdgesTest extends Bench {
         due(x.strokes(), 2);
         sentence("2;1;");
         due(x.strokes(), NONE);
+        sentence("0;");
+        due(x.strokes(), NONE);
         // strikes and gives back at one time
         work("strike 0 0 3;");
         sentence("1;2;3;4;9;");
@@ -614,6 +616,10 @@ public final class AskedEdgesTest extends Bench {
         sentence("1;");
         due(x.forged(0), 2);
         due(x.forged(1), 100);
+
+        sentence("0;");
+        due(x.forged(0), 0);
+        due(x.forged(1), NONE);
 
         says("FORGED: 0 how many, 1 the first (100 times L, 10 times I, and J; NONE).");
         fresh(times(5, "line 1;") + "line 1 2 3 4 5 6 7 8;");
@@ -1190,6 +1196,19 @@ public final class AskedEdgesTest extends Bench {
         page("line 1;");
         due(x.status(0), 3);
         due(x.status(1), 2);
+
+        says("An object is used for at most 512 calls after it has been made");
+        bare();
+        int thrown = 0;
+        for (int call = 1; call < 512; call++) {
+            try {
+                x.told(-call);
+            } catch (IllegalArgumentException e) {
+                thrown++;
+            }
+        }
+        due(x.status(1), 511);
+        due(thrown, 511);
 
         says("0 IMAGES, 1 bytes of the TAPE, 2 WORKS that can be undone; NONE for others.");
         bare();

@@ -15,10 +15,10 @@ import java.util.regex.Matcher;
 import java.util.regex.Pattern;
 
 /** What LANGUAGE.md asks of the form of the class, as far as a program can see it; and that calls make no objects. */
-public final class FormTest {
+public final class FormTest extends Bench {
     private static final String FACE = "feed page law work sentence fault undo told line word reads cell cost would "
-        + "ahead ends says ways strokes best unlike forged value argument common apart mends duel chance share often deeds "
-        + "longest hand span image restore status count";
+        + "ahead ends says ways strokes best unlike forged value argument common apart mends duel chance share often "
+        + "deeds longest hand span image restore status count";
     private static int wrong = 0;
 
     public static void main(String[] args) throws Exception {
@@ -141,12 +141,13 @@ public final class FormTest {
         ask(using < 20000, "12: 400 calls take " + using + " bytes");
     }
 
-    private static void use(StruckPage x) {
-        x.page(put(x, "line 1 0 5;line 8 9 2;line 4 1 0;line 6 0 1;line 5 0 5 9;cell 1 3;ink 200;"));
-        x.law(put(x, "words*3+struck-first+line*2+left/4-ink/50+cell"));
-        x.sentence(put(x, "1;5;9;"));
+    private static void use(StruckPage used) {
+        x = used;
+        page("line 1 0 5;line 8 9 2;line 4 1 0;line 6 0 1;line 5 0 5 9;cell 1 3;ink 200;");
+        law("words*3+struck-first+line*2+left/4-ink/50+cell");
+        sentence("1;5;9;");
         for (int i = 0; i < 16; i++) {
-            x.work(put(x, "again 60[strike 0 0 1;run 99;begin;wipe;];"));
+            work("again 60[strike 0 0 1;run 99;begin;wipe;];");
         }
         for (int i = 0; i < 20; i++) {
             x.image();
@@ -167,16 +168,5 @@ public final class FormTest {
             x.hand(i, 96, 16, 0);
             x.undo();
         }
-    }
-
-    private static int put(StruckPage x, String text) {
-        for (int i = 0; i < text.length(); i += 20) {
-            int[] five = new int[5];
-            for (int k = 0; k < 20; k++) {
-                five[k / 4] = five[k / 4] << 8 | (i + k < text.length() ? text.charAt(i + k) : 0);
-            }
-            x.feed(five[0], five[1], five[2], five[3], five[4]);
-        }
-        return text.length();
     }
 }

@@ -8,6 +8,7 @@ public final class TextEdgesTest extends Bench {
         works();
         sentences();
         tokens();
+        everyByte();
         kindsOfFaults();
         tooMany();
         tape();
@@ -170,6 +171,14 @@ public final class TextEdgesTest extends Bench {
         badLaw(2, "|1000");
         badLaw(2, "1+|1000");
         due(worth("words"), 4);
+        // each name as the third that waits for what is done with it
+        due(worth("1+2*words"), 9);
+        due(worth("1+2*struck"), 5);
+        due(worth("1+2*first"), 7);
+        due(worth("1+2*line"), 11);
+        due(worth("20-1*left"), 0);
+        due(worth("240-1*ink"), 50);
+        due(worth("1+2*cell"), 41);
         badLaw(1, "|word");
         badLaw(1, "|wordss");
 
@@ -379,10 +388,28 @@ public final class TextEdgesTest extends Bench {
         badPage(1, "|lin e 1;");
         badPage(1, "|lineink 1;");
         badPage(1, "|Line 1;");
-        badPage(1, "|linex 1;");
+        badPage(1, "|linez 1;");
+        // not even the first or the last letter may be another one
+        badPage(1, "|mine 1;");
+        badPage(1, "|lint 1;");
+        badPage(1, "|bell 0 1;");
+        badPage(1, "|celt 0 1;");
+        badPage(1, "|onk 1;");
+        badPage(1, "|ina 1;");
+        // the word ends with the text, whatever letters stand on the tape behind it
+        put("line 1;");
+        faulty(x.page(3), 1, 0);
+        put("inks 1;");
+        faulty(x.page(3), 1, 3);
         badPage(1, "line|X 1;");
         badPage(1, "line|_1;");
         badLaw(1, "|leastmost[1,2]");
+        badLaw(1, "|yeast[1,2]");
+        badLaw(1, "|post[1,2]");
+        badLaw(1, "|cords");
+        badLaw(1, "|wordz");
+        badWork(1, "|gun 1;");
+        badWork(1, "|ripe;");
         badLaw(1, "|wordswords");
         badLaw(1, "words|1");
         badWork(1, "|runs 1;");
@@ -398,13 +425,38 @@ public final class TextEdgesTest extends Bench {
         due(page("  "), 0);
         due(work("  "), 0);
         due(sentence("  "), 0);
-        for (char other : new char[] {0, 9, 10, 13, 31, 33, 160, 255}) {
-            badPage(1, "|" + other + "line 1;");
-            badPage(1, "line|" + other + "1;");
-            badPage(1, "ink 1;|" + other);
-            badSentence(1, "1;|" + other);
-            badLaw(1, "1|" + other);
-            badWork(1, "wipe;|" + other);
+    }
+
+    private static boolean isOneOf(String signs, char b) {
+        return signs.indexOf(b) >= 0;
+    }
+
+    /** A sign of no text, or one that can't stand there: all bytes that there are, behind or within a text. */
+    private static void everyByte() {
+        says("1 what can't stand there");
+        String digits = "0123456789";
+        for (char b = 0; b < 256; b++) {
+            bare();
+            if (b == ' ') {
+                due(page("ink 1; "), 0);
+                due(law("1 "), 1);
+                due(work("wipe; "), 0);
+                due(sentence("1; "), 1);
+                due(page("line 1;"), 1);
+                continue;
+            }
+            faulty(page("ink 1;" + b), 1, 6);
+            faulty(work("wipe;" + b), 1, 5);
+            faulty(sentence("1;" + b), 1, isOneOf(digits, b) ? 3 : 2);
+            if (isOneOf(digits, b)) {
+                due(law("1" + b), 1);
+                int due = page("line" + b + "6;");
+                due(due, b == '0' ? 1 : -8);
+                due(x.fault(), b == '0' ? NONE : 4);
+            } else {
+                faulty(law("1" + b), 1, isOneOf("+-*/%", b) ? 2 : 1);
+                faulty(page("line" + b + "6;"), 1, b >= 'a' && b <= 'z' ? 0 : 4);
+            }
         }
     }
 
@@ -495,6 +547,8 @@ public final class TextEdgesTest extends Bench {
         badLaw(3, times(6, "most[") + "|(");
         badLaw(3, "(least[(most[(least[5, |most[");
         badLaw(3, "(least[(most[(least[|(");
+        // as many values wait as can: of a sum, a product and a pair at each of six, and within
+        due(worth(times(6, "9-1*most[1,") + "9-1*2" + times(6, "]")), 7);
         // who is closed is open no more
         due(worth(times(6, "(") + "5" + times(6, ")") + "+" + times(6, "(") + "4" + times(6, ")")), 9);
         due(worth(times(5, "(") + "(1)+(2)+least[3,4]+most[5,6]" + times(5, ")")), 12);

@@ -248,6 +248,9 @@ public final class WorkEdgesTest extends Bench {
         work("run 4;");
         cells(0, 1, 0, 0);
         due(x.told(6), 4);
+        fresh("line 2 0 15;line 2 5 1;line 2 15 2;line 2 10 3;line 2 13;cell 0 20;cell 1 40;cell 2 60;cell 3 80;");
+        work("run 5;");
+        cells(5, 39, 57, 78);
 
         says("3: there is as much in CELL b as in CELL c.");
         fresh("line 3 2 3;line 3 4 7;line 3 1;line 3;cell 0 5;cell 1 6;cell 3 99;");
@@ -504,6 +507,14 @@ public final class WorkEdgesTest extends Bench {
         x.image();
         page("line 1;");
         due(x.apart(), NONE);
+        fresh(times(6, "line 1 2 3 4 5 6 7 8;"));
+        law("0");
+        x.image();
+        work("again 6[strike 0 0 7;];strike 1 0 7;strike 2 0 7;strike 3 0 7;strike 4 0 7;strike 5 0 7;");
+        due(x.apart(), 40);
+        work("strike 0 0 7;");
+        due(x.apart(), 48);
+        due(x.mends(), 6);
 
         says("The fewest strokes by which just those WORDS would be struck as in the latest IMAGE; NONE: there is"
             + " none.");
