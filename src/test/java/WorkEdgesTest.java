@@ -66,8 +66,8 @@ public final class WorkEdgesTest extends Bench {
         // the rounds of an again are cut short, too: one of 120, and 77 behind the third again
         due(work("again 60[again 60[set 0 5;set 0 6;];];"), 200 - 3);
         due(x.cell(0), 5);
-        // a new work begins to count anew
-        due(work("set 3 1;"), 1);
+        // a new work begins to count anew, and nothing of the loops of the one ahead of it is left
+        due(work("set 3 1;set 3 2;set 3 3;set 3 4;"), 4);
     }
 
     private static void strikes() {
