@@ -295,7 +295,7 @@ public final class StruckPage {
     public int ahead(int n, int what) throws IllegalArgumentException {
         must(n >= 0 && n <= MOST_DEEDS_AHEAD && what >= 0 && what <= 2);
         trial.takeOver(now);
-        trial.doDeeds(n);
+        trial.runOn(n);
         switch (what) {
             case 0: return trial.at;
             case 1: return trial.inAllCells();
@@ -630,7 +630,8 @@ public final class StruckPage {
         }
 
         private boolean takeNumber(int low, int high) {
-            if (!isAtDigit()) {
+            int first = peek();
+            if (first < '0' || first > '9') {
                 return fail(WRONG_SIGN, at);
             }
             start = at;
@@ -684,11 +685,11 @@ public final class StruckPage {
         }
 
         private boolean hasWord(int l, int i) {
-            return hasLine(l) && i >= 0 && i < lengths[l];
+            return l >= 0 && l < lines && i >= 0 && i < lengths[l];
         }
 
         private int wordAt(int l, int i) {
-            return hasWord(l, i) ? words[l * MOST_WORDS + i] : 0;
+            return l >= 0 && l < lines && i >= 0 && i < lengths[l] ? words[l * MOST_WORDS + i] : 0;
         }
 
         private void takeOver(Paper other) {
@@ -825,10 +826,6 @@ public final class StruckPage {
             asked[4] = left;
             asked[5] = ink;
             asked[6] = cell;
-            return Math.max(0, Math.min(MOST_COST, worked()));
-        }
-
-        private int worked() {
             int top = 0;
             for (int i = 0; i < length; i++) {
                 int next = row[i];
@@ -840,7 +837,7 @@ public final class StruckPage {
                     top++;
                 }
             }
-            return stack[0];
+            return Math.max(0, Math.min(MOST_COST, stack[0]));
         }
 
         private static int joined(int doing, int a, int b) {
@@ -1311,7 +1308,9 @@ public final class StruckPage {
             if (at >= paper.lines) {
                 return false;
             }
-            doDeeds(most);
+            for (int i = 0; i < most && at < paper.lines; i++) {
+                doDeed();
+            }
             return true;
         }
 
@@ -1346,14 +1345,6 @@ public final class StruckPage {
             }
             cells[which] = n;
             return true;
-        }
-
-        private void doDeeds(int most) {
-            for (int i = 0; i < most; i++) {
-                if (!doDeed()) {
-                    return;
-                }
-            }
         }
 
         /** Whether a deed was done; if not, the run is over. */
