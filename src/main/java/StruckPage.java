@@ -91,7 +91,8 @@ public final class StruckPage {
             return text.kind - FAULT_LESS;
         }
         shelf.keepWork(now);
-        steps.doAll(now);
+        steps.countAnew();
+        steps.doSteps(now, 0, steps.length, 0);
         refusedSteps = steps.refused;
         return steps.done;
     }
@@ -1091,11 +1092,10 @@ public final class StruckPage {
             return text.takeSign(']');
         }
 
-        private void doAll(Desk desk) {
+        private void countAnew() {
             begun = 0;
             done = 0;
             refused = 0;
-            doSteps(desk, 0, length, 0);
         }
 
         private void doSteps(Desk desk, int from, int to, int open) {

@@ -61,8 +61,9 @@ public final class CallsTest {
         JavaCompiler compiler = ToolProvider.getSystemJavaCompiler();
         Path out = Files.createTempDirectory("calls");
         try (StandardJavaFileManager files = compiler.getStandardFileManager(null, null, null)) {
-            JavacTask task = (JavacTask) compiler.getTask(null, files, null, List.of("-proc:none", "-d", out.toString()),
-                null, files.getJavaFileObjects(source));
+            List<String> options = List.of("-proc:none", "-d", out.toString());
+            JavacTask task = (JavacTask) compiler.getTask(null, files, null, options, null,
+                files.getJavaFileObjects(source));
             Iterable<? extends CompilationUnitTree> units = task.parse();
             task.analyze();
             for (CompilationUnitTree unit : units) {
@@ -174,9 +175,8 @@ public final class CallsTest {
         }
 
         private void note(Element called) {
-            if (isOwn(called)) {
-                calls.computeIfAbsent(method, m -> new TreeSet<>()).add(nameOf(called));
-            } else {
+            calls.computeIfAbsent(method, m -> new TreeSet<>()).add(nameOf(called));
+            if (!isOwn(called)) {
                 fromOutside.add(called.getEnclosingElement() + "." + called.getSimpleName());
             }
         }
